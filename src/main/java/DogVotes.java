@@ -98,7 +98,6 @@ public final class DogVotes {
         }
         int before = roll.heirs[dog];
         roll.heirs[dog] = other;
-        changed();
         return heirTold(before);
     }
 

@@ -103,6 +103,9 @@ public final class VotesTest {
         DogVotes x = Due.parish("3+2;2-1;1-1;");
         DUE.is("TIE: each one", x.stolen(0, 0), 7);
         DUE.is("all LEFT: none", x.stolen(9, 0), 0);
+        DUE.is("RIGHT has more LIVER: none", x.stolen(2, 9), 0);
+        DUE.is("l less r: a alone", Due.parish("3+2;2-1;").stolen(5, 6), 1);
+        DUE.is("l less r: a is LEFT, b at 0", Due.parish("2-4;3-5;").stolen(9, 5), 2);
         DUE.is("stolen(21, 0)", x.stolen(21, 0), DogVotes.OUTSIDE);
         DUE.is("stolen(-1, 0)", x.stolen(-1, 0), DogVotes.OUTSIDE);
         DUE.is("stolen(0, 21)", x.stolen(0, 21), DogVotes.OUTSIDE);
@@ -154,6 +157,11 @@ public final class VotesTest {
                 "1-4;1+4;", "2+9;1-4;1-4;", "1+8;1-9!a;"}) {
             restsOf(text);
         }
+        DogVotes y = Due.parish("2+0;2-1;");
+        DUE.is("both at 9: how many", y.rests(-1), 1);
+        DUE.is("both at 9: first", y.rests(0), 99);
+        restsOf("2+0;2-1;");
+        DUE.is("10 by a TIE, less 9, is more than 0", Due.parish("1-9;1+9;2-9!b;").rests(-1), 0);
     }
 
     /** By the words of the document, from what vote answers. */
@@ -211,7 +219,11 @@ public final class VotesTest {
         DUE.is("letOut(-1, 0, -1)", y.letOut(-1, 0, -1), DogVotes.OUTSIDE);
         DUE.is("letOut(0, 21, 9)", y.letOut(0, 21, 9), DogVotes.OUTSIDE);
         DUE.is("letOut(0, -1, 9)", y.letOut(0, -1, 9), DogVotes.OUTSIDE);
+        y.letOut(5, 0, -1);
         y.dies(0);
         DUE.is("after a death", y.letOut(5, 0, -1), 2);
+        Due.write(y, "7+0;");
+        y.roll();
+        DUE.is("of a new ROLL", y.letOut(5, 0, -1), 7);
     }
 }
