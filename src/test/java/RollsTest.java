@@ -11,6 +11,7 @@ public final class RollsTest {
         faultsOfTooMany();
         roll();
         rollTakesAway();
+        rollIsNew();
         dog();
         heir();
         dies();
@@ -185,6 +186,20 @@ public final class RollsTest {
         DUE.is("the third has gone", x.told(12), DogVotes.OUTSIDE);
         DUE.is("an IMAGE stands", x.restore(0), 1);
         DUE.is("its HEIR", x.told(10), 1);
+    }
+
+    /** A LIKING that is not told is 0, whatever the one before it in that place had. */
+    private static void rollIsNew() {
+        DogVotes x = Due.parish("3-5!b;2-5;");
+        Due.write(x, "3?;2?;");
+        DUE.is("roll of two not told", x.roll(), 2);
+        DUE.is("HALVES LEFT", x.vote(0, 0, 0), 5);
+        DUE.is("FEARS nobody", x.dog(0, 2), 0);
+        Due.write(x, "3-5;9");
+        x.fault();
+        x.wipe();
+        DUE.is("a FAULT looked for changes nothing", x.vote(0, 0, 0), 5);
+        DUE.is("nor the LIKING", x.dog(0, 1), DogVotes.NONE);
     }
 
     private static void dog() {
