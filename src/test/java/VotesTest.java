@@ -213,6 +213,7 @@ public final class VotesTest {
         DUE.is("letOut(-1) by l", y.letOut(5, 0, -1), 5);
         DUE.is("letOut(-1) by r", y.letOut(0, 5, -1), 0);
         DUE.is("letOut(-1) by l again", y.letOut(5, 0, -1), 5);
+        DUE.is("letOut(-1) by as much", y.letOut(3, 3, -1), 3);
         DUE.is("letOut(0, 0, -2)", y.letOut(0, 0, -2), DogVotes.NONE);
         DUE.is("letOut(0, 0, 2)", y.letOut(0, 0, 2), DogVotes.NONE);
         DUE.is("letOut(21, 0, -1)", y.letOut(21, 0, -1), DogVotes.OUTSIDE);
