@@ -1,6 +1,7 @@
 /** What the tests share: it prints each answer that is not the one that is due. */
 final class Due {
     private final String name;
+    private String sentence = "";
     private int asked;
     private int wrong;
 
@@ -8,11 +9,16 @@ final class Due {
         this.name = name;
     }
 
+    /** The words of the document that the answers from here on are held against. */
+    void of(String words) {
+        sentence = " [" + words + "]";
+    }
+
     void is(String call, long got, long want) {
         asked++;
         if (got != want) {
             wrong++;
-            System.out.println(name + ": " + call + " answered " + got + ", due is " + want);
+            System.out.println(name + sentence + ": " + call + " answered " + got + ", due is " + want);
         }
     }
 
