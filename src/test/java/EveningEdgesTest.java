@@ -119,6 +119,12 @@ public final class EveningEdgesTest {
                 DUE.is(questions + " QUESTIONS, HUNGER " + hunger, x.best(-1), Math.min(questions, hunger));
             }
         }
+        DUE.of("HUNGER counts as it is");
+        DogVotes z = shy(5);
+        for (int hunger = 1; hunger <= 9; hunger++) {
+            z.hunger(hunger);
+            DUE.is("HUNGER " + hunger, z.best(-1), Math.min(5, hunger));
+        }
         DUE.of("each DOG by itself");
         // b eats by both of the first two, a by none of them, for its bowl has no LIVER.
         DogVotes y = Due.parish("3+1;5-9;");

@@ -22,6 +22,7 @@ public final class RollEdgesTest {
         digits();
         fearedLetters();
         rollTakesAway();
+        rollIsNew();
         heirs();
         nineAreKept();
         chains();
@@ -296,6 +297,32 @@ public final class RollEdgesTest {
             DUE.is("no HEIR of " + dog, x.told(10 + dog), NONE);
             DUE.is("nobody is dead, " + dog, x.dog(dog, 0), 2);
         }
+    }
+
+    private static void rollIsNew() {
+        DUE.of("The PAD becomes the ROLL: nothing of the one before it is left");
+        DogVotes x = Due.parish("9-9!bc;9-9!ac;9-9!ab;9-9!a;9-9!a;9-9!a;9-9!a;");
+        x.image(0);
+        Due.write(x, "1?;2?;3?;4+0;");
+        DUE.is("fault", x.fault(), NONE);
+        DUE.is("a FAULT that is looked for changes nothing", x.dog(3, 0), 9);
+        DUE.is("roll", x.roll(), 4);
+        for (int dog = 0; dog < 4; dog++) {
+            DUE.is("HALVES of " + dog, x.dog(dog, 0), dog + 1);
+            DUE.is("FEARS of " + dog, x.dog(dog, 2), 0);
+            DUE.is("goes, " + dog, x.goes(0, 0, dog), 0);
+        }
+        DUE.is("HALVES LEFT", x.vote(0, 0, 0), 10);
+        DUE.is("all ways fit", x.fits(-1), 6859);
+        Due.write(x, "5+1;5x");
+        DUE.is("fault", x.fault(), 5);
+        DUE.is("roll with a FAULT", x.roll(), DogVotes.NO);
+        DUE.is("HALVES LEFT", x.vote(0, 0, 0), 10);
+        DUE.is("wipe", x.wipe(), 6);
+        Due.write(x, "5?;");
+        DUE.is("roll", x.roll(), 1);
+        DUE.is("HALVES LEFT", x.vote(0, 0, 0), 5);
+        DUE.is("all ways fit", x.fits(-1), 19);
     }
 
     private static void heirs() {

@@ -16,12 +16,14 @@ public final class VoteEdgesTest {
         votesOfNobody();
         stolen();
         stolenBits();
+        stolenByLiver();
         stolenByWhatOthersDo();
         won();
         rests();
         restsOfWhat();
         letOut();
         letOutWithTheDead();
+        letOutAnew();
         letOutByLetters();
         DUE.end();
     }
@@ -222,6 +224,22 @@ public final class VoteEdgesTest {
         DUE.is("a dead one is none", x.stolen(0, 0), 1);
     }
 
+    /** a is LEFT from a lead of -2 on, b from 1 on (a being LEFT, at 0), c from 4 on. */
+    private static void stolenByLiver() {
+        DUE.of("STOLEN, by l and r");
+        DogVotes x = Due.parish("3+2;2-1;2-4;");
+        int[] leads = {-20, -3, -2, -1, 0, 1, 3, 4, 20};
+        int[] wants = {0, 0, 2 + 4, 2 + 4, 2 + 4, 1, 1, 0, 0};
+        for (int k = 0; k < leads.length; k++) {
+            int least = Math.max(0, -leads[k]);
+            DUE.is("lead " + leads[k], x.stolen(leads[k] + least, least), wants[k]);
+            int most = Math.min(20, 20 - leads[k]);
+            DUE.is("lead " + leads[k] + " of more LIVER", x.stolen(most + leads[k], most), wants[k]);
+        }
+        DUE.is("nobody is FULL: all are RIGHT", Due.parish("3+2;1-9;").stolen(0, 5), 0);
+        DUE.is("nobody is FULL: all are LEFT", Due.parish("3-2;1+9;").stolen(5, 0), 0);
+    }
+
     private static void stolenByWhatOthersDo() {
         DUE.of("STOLEN: who is feared, and who is followed, is not there");
         stolenIs("1+9;3+9!a;", RIGHT, 1 + 2);
@@ -302,6 +320,7 @@ public final class VoteEdgesTest {
         order(new DogVotes(), "nobody", 0);
         order(Due.parish("5-1;"), "one, RIGHT", 0, 0);
         order(Due.parish("5+1;"), "one, LEFT", 5, 0);
+        order(Due.parish("5-1;4-1;3-1;"), "three, RIGHT", 0, 0, 1, 2);
         order(Due.parish("9+0;".repeat(7)), "seven", 63, 0, 1, 2, 3, 4, 5, 6);
         DUE.of("by which LEFT has the most HALVES, by l and r");
         // Just where each is let out behind the next one, all but a shun the bowl RIGHT.
@@ -325,6 +344,23 @@ public final class VoteEdgesTest {
         order(x, "who is feared is dead", 3, 0, 1, 2);
         x.dies(2);
         order(x, "all are dead", 0, 0, 1, 2);
+    }
+
+    private static void letOutAnew() {
+        DUE.of("LET OUT, by the ROLL as it is");
+        DogVotes x = Due.parish("1+9;2+9!a;");
+        order(x, "b ahead of a", 3, 1, 0);
+        Due.write(x, "1+9!b;2+9;3+9;");
+        x.roll();
+        order(x, "a new ROLL", 6, 0, 1, 2);
+        x.image(0);
+        x.heir(2, 0);
+        x.dies(2);
+        order(x, "c leaves its HALVES to a", 6, 0, 1, 2);
+        x.dies(1);
+        order(x, "b leaves its HALVES to nobody", 4, 0, 1, 2);
+        x.restore(0);
+        order(x, "as it was", 6, 0, 1, 2);
     }
 
     private static void letOutByLetters() {
